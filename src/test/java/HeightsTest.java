@@ -14,6 +14,7 @@ public final class HeightsTest {
         testAlikeAmongOtherBenchmarks();
         testOrderOfFindingDecides();
         testHeightsFollowEachLine();
+        testEachQuestionFindsAnew();
         testLongestWay();
         testConflictLimit();
         testConflictOfLineBackwards();
@@ -196,6 +197,20 @@ public final class HeightsTest {
         land.line(0, 1, 500, 9);
         dueFound(land, 1, 500, 9);
         dueFound(land, 2, 510, 19);
+    }
+
+    private static void testEachQuestionFindsAnew() {
+        Gravimere land = withBenchmarks(2);
+        checks.due("doubt without a line", land.doubt(1), Gravimere.NONE);
+        land.line(0, 1, 20, 8);
+        checks.due("doubt asked first", land.doubt(1), 8);
+        land.line(0, 1, 30, 7);
+        checks.due("doubtAnew asked first", land.doubtAnew(1), 7);
+        land.line(0, 1, 40, 1);
+        dueConflict(land, 0, true);
+        land.line(0, 1, 50, 0);
+        checks.due("height asked first", land.height(1), 50);
+        checks.due("doubt after the height", land.doubt(1), 0);
     }
 
     private static void testLongestWay() {
