@@ -11,6 +11,8 @@ import java.util.Map;
 /** The words of ../shared/DOC.md, place by place, and which of them a test has quoted so far. */
 final class Document {
     private static final Path FILE = Path.of("../shared/DOC.md");
+    // What is free can be held by no test.
+    private static final List<String> NOT_HELD = List.of("```java", "what later calls answer is free.");
 
     private final Map<String, StringBuilder> places = new LinkedHashMap<>();
     private final Map<String, BitSet> quoted = new LinkedHashMap<>();
@@ -29,7 +31,7 @@ final class Document {
 
     /** Marks the words as quoted; answers how often they stand at that place, which should be once. */
     int quote(String place, String words) {
-        String text = places.getOrDefault(place, new StringBuilder()).toString();
+        String text = textOf(place);
         int times = 0;
         for (int at = text.indexOf(words); at >= 0; at = text.indexOf(words, at + 1)) {
             quoted.computeIfAbsent(place, name -> new BitSet()).set(at, at + words.length());
@@ -38,20 +40,23 @@ final class Document {
         return times;
     }
 
-    /** What stands in the Terms and the promises, but in no quotation. */
+    List<String> places() {
+        return List.copyOf(places.keySet());
+    }
+
+    String textOf(String place) {
+        return places.getOrDefault(place, new StringBuilder()).toString();
+    }
+
+    /** What the document says from its first line up to 'Not promised', but no quotation has. */
     List<String> unquoted() {
         List<String> left = new ArrayList<>();
         places.forEach((place, text) -> {
-            if (isHeld(place)) {
+            if (!place.equals("Not promised")) {
                 addUnquoted(place, text.toString(), left);
             }
         });
         return left;
-    }
-
-    private static boolean isHeld(String place) {
-        return place.startsWith("Promise ")
-                || List.of("The body", "Tides, needles", "Heights", "Releases", "Exceptions").contains(place);
     }
 
     private void addUnquoted(String place, String text, List<String> left) {
@@ -61,14 +66,9 @@ final class Document {
             rest.append(marks.get(at) ? '\n' : text.charAt(at));
         }
         for (String line : rest.toString().split("\n")) {
-            if (line.matches(".*[A-Za-z0-9].*") && !isSignature(line) && !line.startsWith("Ahead of the calls ")) {
+            if (line.matches(".*[A-Za-z0-9].*") && !NOT_HELD.contains(line.strip())) {
                 left.add(place + ": " + line);
             }
         }
-    }
-
-    // FaceTest holds the signatures.
-    private static boolean isSignature(String line) {
-        return line.matches("`[^`]*\\([^`]*\\)[^`]*`: ");
     }
 }

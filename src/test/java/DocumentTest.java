@@ -1,13 +1,16 @@
 import java.io.IOException;
 
 /**
- * Every sentence of the document's Terms and promises, each held by a test of its own that quotes it: the
- * edges that it names, the numbers just outside, the empty, the full and the refused. Fails, too, if words
- * that are quoted don't stand in the document, and if words of the document are in no quotation.
+ * Every sentence of the document, from its first line up to 'Not promised', each held by a test of its own
+ * that quotes it: the edges that it names, the numbers just outside, the empty, the full and the refused.
+ * Fails, too, if words that are quoted don't stand in the document, and if words of it are in no quotation.
  */
 public final class DocumentTest {
     public static void main(String[] args) throws IOException {
-        Checks checks = new Checks("DocumentTest", new Document());
+        Document document = new Document();
+        Checks checks = new Checks("DocumentTest", document);
+        new WhatItIs(checks).test();
+        new FaceInTheDocument(checks, document).test();
         new TermsOfTheBody(checks).test();
         new TermsOfTidesAndNeedles(checks).test();
         new TermsOfHeights(checks).test();

@@ -1,4 +1,4 @@
-/** The sentences of the document's Terms under 'Exceptions', the constants, and the 512 calls. */
+/** The sentences of the document's Terms under 'Exceptions', and the constants. */
 final class TermsOfExceptions {
     private static final String PLACE = "Exceptions";
     private static final int FAR = Checks.FAR;
@@ -18,7 +18,6 @@ final class TermsOfExceptions {
         testCallThatThrowsChangesNothing();
         testConstantNone();
         testConstantsOfNeedles();
-        testThe512thCall();
     }
 
     private void testIndexOutOfBounds() {
@@ -148,24 +147,5 @@ final class TermsOfExceptions {
         land.needle(1, 5);
         checks.due("the needle of the kind 0", land.read(0, 0, 0), 5);
         checks.due("the needle of the kind 1", land.read(1, 0, 0), 0);
-    }
-
-    private void testThe512thCall() {
-        checks.holds("What it is", "An object is used for at most 512 calls after it has been made;");
-        checks.due("mass, the call 512", after511Masses().mass(7, 7, 511 % 3, 0), 511);
-        checks.due("pull, the call 512", after511Masses().pull(3, 4), after511Masses().pullAnew(3, 4));
-        Gravimere refused = Lands.empty();
-        for (int call = 1; call <= 511; call++) {
-            checks.dueThrow("the call " + call, Checks.INDEX, () -> refused.tie(0));
-        }
-        checks.due("needle, the call 512 of one that was refused all", refused.needle(Gravimere.SPRING, 1), 0);
-    }
-
-    private static Gravimere after511Masses() {
-        Gravimere land = Lands.empty();
-        for (int call = 1; call <= 511; call++) {
-            land.mass(call % 8, call / 64, call % 3, call);
-        }
-        return land;
     }
 }
